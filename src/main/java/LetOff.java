@@ -311,6 +311,9 @@ public final class LetOff {
             if ((engine.drive(round) >> car & 1) == 1) {
                 return k;
             }
+            if (round.fuel[car] == 0) {
+                break; // It stands from now on: the searches need not go on to their end.
+            }
         }
         return 0;
     }
@@ -441,7 +444,7 @@ public final class LetOff {
         }
         setEngine(inForce);
         rowSearch.search(engine, now, n);
-        return what == 0 ? rowSearch.most : rowSearch.best[what - 1];
+        return what == 0 ? now.gone + rowSearch.most : rowSearch.best[what - 1];
     }
 
     public int longest(int n, int what) {
@@ -829,7 +832,6 @@ public final class LetOff {
             cell[car] = at;
             want[car] = wanted;
             fuel[car] = filled;
-            age[car] = 0;
             taken |= 1 << at;
         }
 
@@ -1013,10 +1015,10 @@ public final class LetOff {
         int most = 0;
         final int[] best = new int[LONGEST_ROW];
         private final int[] tried = new int[LONGEST_ROW];
-        private final Round[] rounds = new Round[LONGEST_ROW + 1];
+        private final Round[] rounds = new Round[LONGEST_ROW];
 
         RowSearch() {
-            for (int k = 0; k <= LONGEST_ROW; k++) {
+            for (int k = 0; k < LONGEST_ROW; k++) {
                 rounds[k] = new Round();
             }
         }
@@ -1028,18 +1030,18 @@ public final class LetOff {
         }
 
         private void trySets(Engine engine, int depth, int n, int gone) {
-            // At each ROAD one CAR at most goes OFF in a STEP: a row that can't win is left.
-            if (depth > LONGEST_ROW || gone + (n - depth) * MOST_ROADS <= most) {
+            if (depth >= n || depth >= LONGEST_ROW) {
                 return;
             }
-            if (depth >= n) {
-                most = gone;
-                System.arraycopy(tried, 0, best, 0, LONGEST_ROW);
+            int ready = engine.ready(rounds[depth]);
+            // In the last STEP the most go OFF by one set alone.
+            if (depth == n - 1) {
+                tried[depth] = ready;
+                keepIfBest(gone + Integer.bitCount(ready));
                 return;
             }
             // A set with a CAR that can't go OFF does as the lesser one without it: only parts
             // of those that are ready need be tried.
-            int ready = engine.ready(rounds[depth]);
             for (int set = 0; set < 1 << MOST_CARS; set++) {
                 if ((set & ~ready) == 0) {
                     rounds[depth + 1].copyFrom(rounds[depth]);
@@ -1048,6 +1050,13 @@ public final class LetOff {
                     int off = engine.drive(rounds[depth + 1]);
                     trySets(engine, depth + 1, n, gone + Integer.bitCount(off));
                 }
+            }
+        }
+
+        private void keepIfBest(int gone) {
+            if (gone > most) {
+                most = gone;
+                System.arraycopy(tried, 0, best, 0, LONGEST_ROW);
             }
         }
     }

@@ -462,6 +462,11 @@ public final class PromisesTest {
     cars(two, 1, 1, 0);
     cars(two, 0, 0, 5);
     due("count(9)", two.count(9), 0);
+    LetOff last = Due.shown("show 3");
+    for (int k = 0; k < 999; k++) last.step();
+    due("step() in STEP 999", last.step(), -1);
+    due("count(5)", last.count(5), 999);
+    due("still(): what is asked goes on beyond", last.still(), 999);
     // EVERY 3: in the STEPS 0, 3, 6; a gap lets nobody on.
     LetOff gap = Due.shown("show 9;gap 0;road 0 3");
     int[] waiting = {1, 1, 1, 2, 2, 2, 3};
@@ -617,6 +622,14 @@ public final class PromisesTest {
     z.force(2);
     due("still()", z.still(), -2);
     due("still()", Due.shown("show 3").still(), 0);
+    Due.rule(z, "go 1 if step < 199");
+    Due.rule(z, "go 1 if step < 200");
+    z.force(3);
+    due("still()", z.still(), 199);
+    z.force(4);
+    due("still()", z.still(), -2);
+    z.step();
+    due("still()", z.still(), 200);
   }
 
   private static void promise19() {
@@ -718,6 +731,9 @@ public final class PromisesTest {
     LetOff z = Due.shown("show 6;road 1 20;car 5 0 9");
     due("row(3, 0)", z.row(3, 0), 1);
     due("row(3, 2)", z.row(3, 2), 2);
+    z.step();
+    z.grass(1);
+    due("row(1, 0): went OFF by then, over the GRASS, too", z.row(1, 0), 1);
   }
 
   private static void promise24() {
@@ -819,6 +835,15 @@ public final class PromisesTest {
     // From STEP 1 on two go round in 4; a third comes in STEP 20, beyond the first such.
     due("ring(0)", z.ring(0), 1);
     due("ring(1)", z.ring(1), 4);
+    // At the begins of STEPS 42 and 61 all is alike: one STEP too late for STEP 0, not for STEP 1.
+    LetOff late = Due.shown("show 15;road 4 5;road 8 7;road 11 11;road 0 9;car 8 1 56;car 0 2 41");
+    Due.rule(late, "go 1");
+    late.force(0);
+    due("ring(0)", late.ring(0), -2);
+    due("ring(1)", late.ring(1), -2);
+    late.step();
+    due("ring(0)", late.ring(0), 42);
+    due("ring(1)", late.ring(1), 19);
   }
 
   private static void promise28() {
@@ -1010,6 +1035,20 @@ public final class PromisesTest {
     x.step();
     due("back(3)", x.back(3), 1);
     due("count(5)", x.count(5), 1);
+    // The NOTES of the image are told again, not those that came since.
+    x.note(-1, 0, 0);
+    x.note(0, 0, 5);
+    due("ruled(0)", x.ruled(0), 0);
+    due("back(3)", x.back(3), 1);
+    due("ruled(0)", x.ruled(0), 3);
+    x.note(-1, 0, 0);
+    x.note(0, 0, 1);
+    x.image(2);
+    x.note(-1, 0, 0);
+    x.note(5, 5, 5);
+    due("ruled(0)", x.ruled(0), 0);
+    due("back(2)", x.back(2), 1);
+    due("ruled(0)", x.ruled(0), 3);
     due("back(0): there was no SHOW", x.back(0), 0);
     due("step()", x.step(), -1);
     due("count(0)", x.count(0), 0);
