@@ -48,9 +48,10 @@ public final class LetOff {
     private final RuleReader ruleReader = new RuleReader();
     private final Engine engine = new Engine();
     private final RowSearch rowSearch = new RowSearch();
+
+    // Filled anew by each question that needs them, so that none makes rows of its own.
     private final Round trial = new Round();
-    private final int[] gains = new int[2 * MOST_ROADS * MOST_ROADS];
-    private final int[] alike = new int[MOST_CARS * (MOST_CELLS + 1)];
+    private final int[] table = new int[MOST_CARS * (MOST_CELLS + 1)];
     private final long[] faces = new long[LONGEST_RING + 1];
 
     public LetOff() {
@@ -478,7 +479,7 @@ public final class LetOff {
         if (plan == null || !within(n, 1, 20) || !within(what, 0, 2)) {
             return NONE;
         }
-        fillGains(one, other, n);
+        fillTable(one, other, n);
         int many = 0;
         int first = NONE;
         for (int two = 0; two < plan.roads * plan.roads; two++) {
@@ -496,23 +497,24 @@ public final class LetOff {
         return what == 1 ? first / plan.roads : first % plan.roads;
     }
 
+    /** Where the table has what the first one gains by these two ROADS; the second's stands behind. */
     private static int gainAt(int road, int otherRoad) {
         return 2 * (road * MOST_ROADS + otherRoad);
     }
 
-    private void fillGains(int one, int other, int n) {
+    private void fillTable(int one, int other, int n) {
         for (int road = 0; road < plan.roads; road++) {
             for (int otherRoad = 0; otherRoad < plan.roads; otherRoad++) {
                 Round round = tryFromNow();
                 round.want[one] = road;
                 round.want[other] = otherRoad;
                 int at = gainAt(road, otherRoad);
-                gains[at] = 0;
-                gains[at + 1] = 0;
+                table[at] = 0;
+                table[at + 1] = 0;
                 for (int k = 1; k <= n; k++) {
                     int off = engine.drive(round);
-                    gains[at] = gainBehind(off, one, gains[at], k);
-                    gains[at + 1] = gainBehind(off, other, gains[at + 1], k);
+                    table[at] = gainBehind(off, one, table[at], k);
+                    table[at + 1] = gainBehind(off, other, table[at + 1], k);
                 }
             }
         }
@@ -526,10 +528,10 @@ public final class LetOff {
     private boolean isRest(int road, int otherRoad) {
         int at = gainAt(road, otherRoad);
         for (int k = 0; k < plan.roads; k++) {
-            if (gains[gainAt(k, otherRoad)] > gains[at]) {
+            if (table[gainAt(k, otherRoad)] > table[at]) {
                 return false;
             }
-            if (gains[gainAt(road, k) + 1] > gains[at + 1]) {
+            if (table[gainAt(road, k) + 1] > table[at + 1]) {
                 return false;
             }
         }
@@ -657,7 +659,7 @@ public final class LetOff {
         if (plan == null || !within(n, 0, LAST_NOTED_STEP) || !within(what, 0, 1)) {
             return NONE;
         }
-        Arrays.fill(alike, 0);
+        Arrays.fill(table, 0);
         int fitting = 0;
         for (int rule = NONE; rule < ruleCount; rule++) {
             if (fitsNotes(tryFromBegin(rule))) {
@@ -681,14 +683,14 @@ public final class LetOff {
 
     private void countCells(Round round) {
         for (int car = 0; car < MOST_CARS; car++) {
-            alike[car * (MOST_CELLS + 1) + round.cell[car] + 1]++;
+            table[car * (MOST_CELLS + 1) + round.cell[car] + 1]++;
         }
     }
 
     private int mostAlike(int car) {
         int most = 0;
         for (int k = 0; k <= MOST_CELLS; k++) {
-            most = Math.max(most, alike[car * (MOST_CELLS + 1) + k]);
+            most = Math.max(most, table[car * (MOST_CELLS + 1) + k]);
         }
         return most;
     }
