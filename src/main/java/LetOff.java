@@ -589,15 +589,12 @@ public final class LetOff {
     // Notes, and what they leave open.
 
     public int note(int n, int car, int cell) {
-        if (plan == null) {
-            return -2;
-        }
         if (n == NONE) {
             notes.size = 0;
             return 0;
         }
         boolean fits = within(n, 0, LAST_NOTED_STEP) && isCar(car) && (cell == NONE || isCell(cell));
-        if (!fits || notes.size >= MOST_NOTES) {
+        if (plan == null || !fits || notes.size >= MOST_NOTES) {
             return -2;
         }
         notes.add(n, car, cell);

@@ -477,9 +477,8 @@ final class PlainModel {
     return part[car];
   }
   int note(int n, int car, int cell) {
-    if (now == null) return -2;
     if (n == -1) { notes.clear(); return 0; }
-    if (!in(n, 0, 60) || !in(car, 0, 5) || !in(cell, -1, now.size - 1) || notes.size() == 10) return -2;
+    if (now == null || !in(n, 0, 60) || !in(car, 0, 5) || !in(cell, -1, now.size - 1) || notes.size() == 10) return -2;
     notes.add(new int[] {n, car, cell});
     return notes.size();
   }

@@ -77,6 +77,7 @@ public final class PromisesTest {
     due("ring", x.ring(0), -1);
     due("litres", x.litres(1, 0), -1);
     due("note", x.note(0, 0, -1), -2);
+    due("note(NONE, ..)", x.note(-1, 0, 0), 0);
     due("ruled", x.ruled(0), -3);
     due("look", x.look(0, 0), -1);
     due("shows", x.shows(1, 1, 1, 0), -1);
