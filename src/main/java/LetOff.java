@@ -445,7 +445,7 @@ public final class LetOff {
         }
         setEngine(inForce);
         rowSearch.search(engine, now, n);
-        return what == 0 ? now.gone + rowSearch.most : rowSearch.best[what - 1];
+        return what == 0 ? rowSearch.most : rowSearch.best[what - 1];
     }
 
     public int longest(int n, int what) {

@@ -395,7 +395,7 @@ final class PlainModel {
     if (what > n) return -2;
     rowMost = -1;
     rows(now, new int[n], 0, 0);
-    return what == 0 ? now.off + rowMost : bestRow[what - 1];
+    return what == 0 ? rowMost : bestRow[what - 1];
   }
   boolean noted(World from, int rule) {
     for (int[] note : notes) if (later(from, rule, note[0]).cellOf(note[1]) != note[2]) return false;

@@ -734,7 +734,15 @@ public final class PromisesTest {
     due("row(3, 2)", z.row(3, 2), 2);
     z.step();
     z.grass(1);
-    due("row(1, 0): went OFF by then, over the GRASS, too", z.row(1, 0), 1);
+    due("row(1, 0): over the GRASS went OFF by no row", z.row(1, 0), 0);
+    LetOff w = Due.shown(TWO_READY);
+    w.grass(0);
+    due("row(1, 0): the one by the row alone", w.row(1, 0), 1);
+    due("row(1, 1)", w.row(1, 1), 2);
+    w.undo();
+    due("step()", w.step(), 3);
+    due("count(7)", w.count(7), 2);
+    due("row(3, 0): those of the STEP ahead are not counted", w.row(3, 0), 0);
   }
 
   private static void promise24() {
