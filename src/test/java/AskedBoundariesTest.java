@@ -596,6 +596,9 @@ public final class AskedBoundariesTest {
     LetOff last = withRules("show 20;road 0 20;car 2 0 0;car 4 0 0;car 6 0 0;car 8 0 0;car 10 0 0;car 0 0 9", "go 0", "go 1");
     due("look(1, 0), the last CAR", last.look(1, 0), 5);
     due("look(1, 1)", last.look(1, 1), 2);
+    LetOff corner = withRules("show 20;road 19 20;car 2 0 0;car 4 0 0;car 6 0 0;car 8 0 0;car 10 0 0;car 19 0 9", "go 0", "go 1");
+    due("look(1, 0), the last CAR in the last CELL", corner.look(1, 0), 5);
+    due("look(1, 1)", corner.look(1, 1), 2);
   }
 
   private static long drawn(long x) { return (x * 1103515245L + 12345L) % 2147483648L; }

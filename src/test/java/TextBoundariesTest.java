@@ -545,6 +545,12 @@ public final class TextBoundariesTest {
     for (int n : new int[] {4, 5, 7, 11, 12, 13, 14, 16, 19, 20, 21, 22, 23, 24, 26, 29, 30}) shows(show.substring(0, n), Due.fault(n, 0));
     String rule = "go 1*2 if not [ 1 <= 2 ] or 1 = 1;go 1";
     for (int n : new int[] {2, 3, 5, 9, 10, 13, 14, 15, 16, 17, 18, 20, 21, 22, 23, 27, 28, 29, 30, 31, 32, 34, 36, 37}) rules(rule.substring(0, n), Due.fault(n, 0));
+    // A NUMBER is no sign, though it be that sign's own.
+    for (char sign : "+-*/%;".toCharArray()) rules("go 1 " + (int) sign + " go 1", Due.fault(5, 0));
+    for (char sign : "<=>+".toCharArray()) rules("go 1 if 1 " + (int) sign + " 1", Due.fault(10, 0));
+    rules("go 1 if " + (int) '[' + " 1=1]", Due.fault(11, 0));
+    rules("go 1 if [1=1 " + (int) ']', Due.fault(13, 0));
+    shows("show 3 " + (int) ';' + " gap 1", Due.fault(7, 0));
     LetOff longer = new LetOff();
     due("rule()", Due.rule(longer, "go 1 if 1<=12"), 0);
     due("rule(): the end is ahead of what the TAPE had", Due.rule(longer, "go 1 if 1<"), Due.fault(10, 0));
