@@ -23,8 +23,13 @@ public final class LanguageTest {
     none(text, "an import but Arrays, ArrayList, List", "import (?!java\\.util\\.(Arrays|ArrayList|List);)");
     none(whole, "signs beyond 127", "[^\\x00-\\x7f]");
     Due.is("at most twelve classes", many(text, "\\bclass\\b") <= 12 ? 1 : 0, 1);
+    none(text, "library call but those listed", "\\b(Integer|Long|Math|Arrays|System)\\.(?!(bitCount|min|max|floorMod|fill|copyOf|arraycopy)\\()");
+    none(text, "method of more than seven parameters", "\\w \\w+\\((\\w+(\\[\\])* \\w+,\\s*){7}");
+    none(text, "float, double or boxed number", "\\b(float|double|Float|Double|Short|Byte|Character|Boolean)\\b");
+    none(text, "equals, hashCode or toString", "\\b(equals|hashCode|toString)\\b");
     privateNames(text);
     longMethods(text);
+    manyFields(text);
     Due.close("LanguageTest");
   }
 
@@ -52,6 +57,17 @@ public final class LanguageTest {
         Due.is("at most 60 lines: " + lines[open].trim(), k - open <= 60 ? 1 : 0, 1);
         open = -1;
       }
+    }
+  }
+
+  /** Fields stand four signs deep in LetOff, eight deep in the classes inside it. */
+  private static void manyFields(String text) {
+    String field = "(private )?(final )?\\w+(\\[\\])? \\w+( = [^;]*)?;";
+    Due.is("LetOff has at most twenty fields", many(text, "(?m)^ {4}" + field) <= 20 ? 1 : 0, 1);
+    String[] inside = text.split("private static final class ");
+    for (int k = 1; k < inside.length; k++) {
+      int fields = many(inside[k], "(?m)^ {8}" + field);
+      Due.is("at most twenty fields: " + inside[k].split("\\W")[0], fields <= 20 ? 1 : 0, 1);
     }
   }
 }
